@@ -265,6 +265,14 @@ public final class PromisesTest {
             engine.weight(f, 4, -9);
             due("7 turned below", 450, engine.greatest(f));
             due("8 turned below", 0, engine.where(f));
+            // Each asked right after a change, so that neither can lean on what the other worked out.
+            WinogradEngine changed = mirror(f);
+            changed.set(12, 5);
+            due("8 after a change", 12, changed.where(f));
+            changed.set(77, 6);
+            due("7 after a change", 6, changed.greatest(f));
+            changed.set(31, 7);
+            due("8 after another change", 31, changed.where(f));
             // The cells beside the image have a response too, and it is not asked for.
             WinogradEngine beside = new WinogradEngine();
             beside.weight(f, 3, 9);
