@@ -6,6 +6,7 @@ public final class ReferenceTest {
     private static final int BAD = -1000000000;
     private static final int RUNS = 400;
     private static final int CALLS = 512;
+    private static final int[][] REACHES = {{99, 9}, {1, 1}, {20, 2}, {99, 1}};
 
     private static long seed = 20261115L;
     private static int wrong = 0;
@@ -28,6 +29,11 @@ public final class ReferenceTest {
             case 4: return high;
             default: return low + upTo(high - low + 1);
         }
+    }
+
+    /** From -reach to reach, now and then at the ends of the whole range or beside it. */
+    private static int drawn(int reach, int limit) {
+        return upTo(10) == 0 ? near(-limit, limit) : upTo(2 * reach + 1) - reach;
     }
 
     private static boolean within(int value, int low, int high) {
@@ -180,12 +186,13 @@ public final class ReferenceTest {
         return answer ? 1 : 0;
     }
 
-    private void step(String head, WinogradEngine engine, int kind) {
+    /** A reach as wide as the range, or a small one, with which cells often share a response and few are cut. */
+    private void step(String head, WinogradEngine engine, int kind, int cellReach, int weightReach) {
         int f = near(0, 1);
         int cell = near(0, 99);
-        int value = near(-99, 99);
+        int value = drawn(cellReach, 99);
         int a = near(0, 8);
-        int small = near(-9, 9);
+        int small = drawn(weightReach, 9);
         int line = near(0, 19);
         int from = near(0, 9);
         int to = near(0, 9);
@@ -209,13 +216,15 @@ public final class ReferenceTest {
     private static void mixedRun(int run) {
         WinogradEngine engine = new WinogradEngine();
         ReferenceTest reference = new ReferenceTest();
+        int cellReach = REACHES[run % 4][0];
+        int weightReach = REACHES[run % 4][1];
         for (int call = 1; call <= CALLS; call++) {
             int kind = upTo(11);
-            // An apply soon makes the image flat, so it comes seldom, and sets take its place.
-            if (kind == 9 && upTo(6) != 0) {
+            // With great weights an apply soon makes the image flat, so it comes seldom, and sets take its place.
+            if (kind == 9 && upTo(weightReach + 1) != 0) {
                 kind = upTo(3);
             }
-            reference.step("run " + run + ", call " + call + ": ", engine, kind);
+            reference.step("run " + run + ", call " + call + ": ", engine, kind, cellReach, weightReach);
         }
     }
 
