@@ -147,12 +147,19 @@ public final class BoundaryTest {
         last("weight", state, YES, engine -> counted(engine.weight(1, 8, 9)));
         last("weight refused", state, NO, engine -> counted(engine.weight(1, 9, 9)));
         last("response", state, -6, engine -> engine.response(1, 11));
+        last("response refused", state, BAD, engine -> engine.response(1, 100));
         last("second", state, -6, engine -> engine.second(11));
+        last("second refused", state, BAD, engine -> engine.second(-1));
         last("greatest", state, 3, engine -> engine.greatest(0));
+        last("greatest refused", state, BAD, engine -> engine.greatest(2));
         last("where", state, 12, engine -> engine.where(0));
+        last("where refused", state, BAD, engine -> engine.where(-1));
         last("total", state, -6, engine -> engine.total(1));
+        last("total refused", state, BAD, engine -> engine.total(2));
         last("pooled", state, 3, engine -> engine.pooled(0, 1));
+        last("pooled refused", state, BAD, engine -> engine.pooled(0, 25));
         last("apply", state, 0, engine -> engine.apply(1));
+        last("apply refused", state, BAD, engine -> engine.apply(-1));
         last("turn", state, YES, engine -> counted(engine.turn(1)));
         last("turn refused", state, NO, engine -> counted(engine.turn(2)));
     }

@@ -11,6 +11,7 @@ public final class LongRunTest {
     private static final int YES = 1;
     private static final int LAST = 512;
     private static final int QUESTIONS = 356;
+    private static final int REFUSED_KINDS = 16;
 
     private static int looked = 0;
     private static int wrong = 0;
@@ -523,28 +524,53 @@ public final class LongRunTest {
 
     // ---- Promise 13
 
-    /** "a call that is refused ... changes nothing": 393 of them, of every kind. */
-    private static void refusedCalls(Run run) {
+    /** "a call that is refused ... changes nothing": 393 of them; with every shift each kind stands at every place. */
+    private static void refusedCalls(Run run, int shift) {
         run.mark();
         for (int k = 0; k < 393; k++) {
-            int beside = k % 2 == 0 ? -1 - k : 100 + k;
-            switch (k % 15) {
-                case 0: run.due(NO, run.engine.set(beside, 5)); break;
-                case 1: run.due(NO, run.engine.set(k % 100, beside < 0 ? beside - 99 : beside)); break;
-                case 2: run.due(NO, run.engine.weight(beside, k % 9, 0)); break;
-                case 3: run.due(NO, run.engine.weight(k % 2, beside, 0)); break;
-                case 4: run.due(NO, run.engine.weight(k % 2, k % 9, beside < 0 ? beside - 9 : beside)); break;
-                case 5: run.due(NO, run.engine.turn(beside)); break;
-                case 6: run.due(BAD, run.engine.response(beside, k % 100)); break;
-                case 7: run.due(BAD, run.engine.response(k % 2, beside)); break;
-                case 8: run.due(BAD, run.engine.second(beside)); break;
-                case 9: run.due(BAD, run.engine.greatest(beside)); break;
-                case 10: run.due(BAD, run.engine.where(beside)); break;
-                case 11: run.due(BAD, run.engine.total(beside)); break;
-                case 12: run.due(BAD, k % 4 < 2 ? run.engine.pooled(beside, k % 25) : run.engine.pooled(k % 2, beside)); break;
-                case 13: run.due(BAD, run.engine.apply(beside)); break;
-                default: run.due(BAD, refusedStripe(run.engine, k)); break;
-            }
+            refused(run, (k + shift) % REFUSED_KINDS, k);
+        }
+    }
+
+    /** The same from an object's first call on, while all is still 0. */
+    private static void refusedFromTheStart(int shift) {
+        Run cells = new Run("13, refused from the start, then the cells");
+        Run weights = new Run("13, refused from the start, then the weights");
+        for (int k = 0; k < 400; k++) {
+            refused(cells, (k + shift) % REFUSED_KINDS, k);
+            refused(weights, (k + shift) % REFUSED_KINDS, k);
+        }
+        cells.oneWeight(shift % 2, 4, 1);
+        for (int cell = 0; cell < 100; cell++) {
+            cells.due(0, cells.engine.response(shift % 2, cell));
+        }
+        weights.due(YES, weights.engine.set(44, 1));
+        for (int cell : new int[] {33, 34, 35, 43, 44, 45, 53, 54, 55}) {
+            weights.due(0, weights.engine.response(0, cell));
+            weights.due(0, weights.engine.response(1, cell));
+        }
+    }
+
+    private static void refused(Run run, int kind, int k) {
+        boolean below = k / REFUSED_KINDS % 2 == 0;
+        int beside = below ? -1 - k : 100 + k;
+        switch (kind) {
+            case 0: run.due(NO, run.engine.set(beside, 5)); break;
+            case 1: run.due(NO, run.engine.set(k % 100, below ? -100 - k : 100 + k)); break;
+            case 2: run.due(NO, run.engine.weight(beside, k % 9, 1)); break;
+            case 3: run.due(NO, run.engine.weight(k % 2, beside, 1)); break;
+            case 4: run.due(NO, run.engine.weight(k % 2, k % 9, below ? -10 - k : 10 + k)); break;
+            case 5: run.due(NO, run.engine.turn(beside)); break;
+            case 6: run.due(BAD, run.engine.response(beside, k % 100)); break;
+            case 7: run.due(BAD, run.engine.response(k % 2, beside)); break;
+            case 8: run.due(BAD, run.engine.second(beside)); break;
+            case 9: run.due(BAD, run.engine.greatest(beside)); break;
+            case 10: run.due(BAD, run.engine.where(beside)); break;
+            case 11: run.due(BAD, run.engine.total(beside)); break;
+            case 12: run.due(BAD, run.engine.pooled(beside, k % 25)); break;
+            case 13: run.due(BAD, run.engine.pooled(k % 2, beside)); break;
+            case 14: run.due(BAD, run.engine.apply(beside)); break;
+            default: run.due(BAD, refusedStripe(run.engine, k / REFUSED_KINDS)); break;
         }
     }
 
@@ -588,7 +614,11 @@ public final class LongRunTest {
         whole("11, moving rows", LongRunTest::movingRows);
         whole("12, turns", LongRunTest::turns);
         whole("12, turns and refused turns", LongRunTest::turnsAndRefusedTurns);
-        whole("13, refused calls", LongRunTest::refusedCalls);
+        for (int k = 0; k < REFUSED_KINDS; k++) {
+            int shift = k;
+            whole("13, refused calls", run -> refusedCalls(run, shift));
+            refusedFromTheStart(shift);
+        }
         System.out.println(wrong == 0 ? "all " + looked + " answers are as due" : wrong + " answers are not as due");
         if (wrong != 0) {
             System.exit(1);
